@@ -529,7 +529,7 @@ public final class LetterStore {
 
         /** Written without from + n, which could wrap around. */
         boolean hasItems(int from, int n) {
-            return from >= 0 && n >= 0 && n <= items.length && from <= items.length - n;
+            return from >= 0 && n >= 0 && from <= items.length - n;
         }
 
         void put(int i, int v) {
@@ -793,7 +793,7 @@ public final class LetterStore {
             return count;
         }
 
-        /** A letter is in the store from the tick that takes it to the tick of its fate; others have takenAt RUN_END. */
+        /** A letter is in the store from the tick that takes it to that of its fate; others have takenAt RUN_END. */
         int lengthAt(int line, int tick) {
             int count = 0;
             for (int k = 0; k < letterCount; k++) {

@@ -28,7 +28,8 @@ public final class ModelTest {
         }
         if (stuck == 0 || pushed == 0 || shortened == 0 || witnessed == 0) {
             wrong++;
-            System.out.println("the random cases reach too little: " + stuck + " " + pushed + " " + shortened + " " + witnessed);
+            System.out.println("the random cases reach too little: " + stuck + " stuck, " + pushed + " pushed out, "
+                + shortened + " short, " + witnessed + " witnesses");
         }
         heldLinesLoseNoneByNeed();
         wildCalls();

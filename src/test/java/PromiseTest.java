@@ -315,11 +315,9 @@ public final class PromiseTest {
             x.item(0, 0, i, i / 2);
         }
         due("13 copy(0, 2, 1, 0, 4)", x.copy(0, 2, 1, 0, 4), 4);
-        x.letters(0, 1, 0, 0, 1);
-        due("13 a letter of what came", x.letter(0, 0, 0) * 10 + x.letter(0, 0, 1), BAD * 10 + BAD);
         x.line(0, 0);
         x.line(0, 0);
-        x.letters(0, 1, 0, 0, 2);
+        due("13 letters of what came", x.letters(0, 1, 0, 0, 2), 2);
         due("13 tick that came", x.letter(0, 0, 0), 1);
         due("13 line that came", x.letter(0, 1, 1), 2);
         copyWithinOne(1);
@@ -507,7 +505,8 @@ public final class PromiseTest {
         x.part(1, 3);
         due("17 held, lag 1", x.run(0, 3), 8);
         // HALT is told at the end of tick 1 and heard at tick 3; GO at the end of tick 7 is heard at tick 9.
-        lengths("17 held, lag 1", x, 1, 1, 2, 3, 2, 2, 2, 2, 1, 1, 2, 3, 2, 2, 2, 2, 1, 1, 2, 3, 2, 2, 2, 2, 1, 1, 2, 2, 1, 1, 1, 1, 0);
+        lengths("17 held, lag 1", x, 1, 1, 2, 3,
+            2, 2, 2, 2, 1, 1, 2, 3, 2, 2, 2, 2, 1, 1, 2, 3, 2, 2, 2, 2, 1, 1, 2, 2, 1, 1, 1, 1, 0);
         due("17 held: none is refused", x.sum(1, 1), 0);
         x.hold(1, 2, 1, 0);
         x.part(1, 2);
@@ -681,10 +680,10 @@ public final class PromiseTest {
         x.pace(0, 5);
         lay(x, 0, 0, 0, 0, 0, 1, 1, 2, 1, 3, 1);
         due("22 by best foresight", x.best(0), 4);
-        due("22 pushed is short", x.shortBy(0, 2), 0);
-        due("22 shared is short", x.shortBy(0, 1), 0);
+        due("22 pushed loses none of that", x.shortBy(0, 2), 0);
+        due("22 shared loses none of that", x.shortBy(0, 1), 0);
         x.mark(1, 12);
-        due("22 fixed is short", x.shortBy(0, 0), 2);
+        due("22 fixed is short by 2", x.shortBy(0, 0), 2);
         x.clear(0);
         layMany(x, 0, 80, 0, 0);
         x.room(12);
