@@ -50,6 +50,9 @@ public final class LetterStore {
         for (int i = 0; i < MOST_ROWS; i++) {
             rows[i] = new Row();
         }
+        for (int i = 0; i < MOST_SHEETS; i++) {
+            sheets[i] = new Sheet();
+        }
     }
 
     // ---- 1 the store, lines
@@ -170,7 +173,7 @@ public final class LetterStore {
         if (n < 0) {
             return SIZE;
         }
-        sheets[sheet] = new Sheet(lane, n);
+        sheets[sheet].beginRow(lane, n);
         return n;
     }
 
@@ -179,11 +182,11 @@ public final class LetterStore {
             return BAD;
         }
         Sheet which = sheets[sheet];
-        if (which == null) {
+        if (!which.hasRow) {
             return NULL;
         }
-        sheets[sheet] = null;
-        return which.items.length;
+        which.hasRow = false;
+        return which.size;
     }
 
     public int item(int sheet, int lane, int i, int v) {
@@ -191,7 +194,7 @@ public final class LetterStore {
             return BAD;
         }
         Sheet which = sheets[sheet];
-        if (which == null) {
+        if (!which.hasRow) {
             return NULL;
         }
         if (which.lane != lane) {
@@ -210,7 +213,7 @@ public final class LetterStore {
         }
         Sheet source = sheets[from];
         Sheet target = sheets[to];
-        if (source == null || target == null) {
+        if (!source.hasRow || !target.hasRow) {
             return NULL;
         }
         if (source.lane != target.lane) {
@@ -229,7 +232,7 @@ public final class LetterStore {
             return BAD;
         }
         Sheet source = sheets[sheet];
-        if (source == null) {
+        if (!source.hasRow) {
             return NULL;
         }
         if (source.lane != lane) {
@@ -517,19 +520,26 @@ public final class LetterStore {
         }
     }
 
+    /** Its array is made once and used for every row that it comes to hold. */
     private static final class Sheet {
-        final int lane;
         /** Each item is held as an int, already cut to its lane's bits. */
-        final int[] items;
+        final int[] items = new int[MOST_ITEMS];
+        boolean hasRow;
+        int lane;
+        int size;
 
-        Sheet(int lane, int n) {
-            this.lane = lane;
-            this.items = new int[n];
+        void beginRow(int ofLane, int n) {
+            hasRow = true;
+            lane = ofLane;
+            size = n;
+            for (int i = 0; i < MOST_ITEMS; i++) {
+                items[i] = 0;
+            }
         }
 
         /** Written without from + n, which could wrap around. */
         boolean hasItems(int from, int n) {
-            return from >= 0 && n >= 0 && from <= items.length - n;
+            return from >= 0 && n >= 0 && from <= size - n;
         }
 
         void put(int i, int v) {

@@ -97,6 +97,10 @@ public final class ForesightEdgeTest {
         due("none of line 0, four of line 1", x.best(0), 4);
         x.room(3);
         due("all of them", x.best(0), 6);
+        x.room(1);
+        x.clear(0);
+        Edges.lay(x, 0, 0, 1, 0, 0, 1, 1, 2, 1, 3, 1);
+        due("none of line 0, which comes behind line 1 at tick 0", x.best(0), 4);
     }
 
     private static void bestByPaces() {
@@ -366,6 +370,10 @@ public final class ForesightEdgeTest {
         x.pace(0, 2);
         Edges.lay(x, 3, 1, 0);
         due("by its PACE three are there at tick 1", x.marks(), 17);
+        Edges.layMany(x, 3, 4, 39, 0);
+        due("four at tick 39, when it is empty again", x.marks(), 49);
+        Edges.layMany(x, 3, 1, 39, 0);
+        due("five at tick 39", x.marks(), NOT);
     }
 
     private static void marksHeldAsLines() {

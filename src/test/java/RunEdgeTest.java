@@ -31,6 +31,7 @@ public final class RunEdgeTest {
         heldHigh();
         heldLow();
         heldBetween();
+        goAheadOfAll();
         heldLag();
         heldByEachRule();
         tickFourHundred();
@@ -82,7 +83,23 @@ public final class RunEdgeTest {
         due("none of the held line is there", x.length(1, 0), 0);
         due("its greatest length is 0", x.sum(1, 4), 0);
         due("run(0, 3) again", x.run(0, KEPT), 76);
-        due("its state is GO ahead of all again", x.length(1, 40), 1);
+        due("the first one at 39 again", x.fate(0, 1), 39);
+    }
+
+    /** HALT is told up to tick 3, so the end of one run would halt the next one's first letter, were it heard there. */
+    private static void goAheadOfAll() {
+        Edges.sentence("else as it was (GO ahead of all); .. (t - 1 - LAG below 0: it is not)");
+        for (int lag = 0; lag <= 5; lag++) {
+            LetterStore x = Edges.storeWith(12, 2);
+            x.pace(1, 5);
+            x.hold(1, 1, 0, lag);
+            Edges.lay(x, 0, 0, 1);
+            for (int run = 0; run < 3; run++) {
+                due("run " + run + ", lag " + lag, x.run(0, KEPT), 1);
+                Edges.lengths(x, 1, 1, 1, 1, 1, 0);
+                due("ticks()", x.ticks(), 5);
+            }
+        }
     }
 
     private static void lettersAheadOfSends() {

@@ -140,6 +140,15 @@ public final class SheetEdgeTest {
             due("a new row of the like lane", x.sheet(0, lane, 160), 160);
             due("what was there is gone: the first", tickRead(x, 0, lane, 0), 0);
             due("what was there is gone: the last", tickRead(x, 0, lane, 158), 0);
+            x.item(0, lane, 158, 9);
+            x.sheet(0, lane, 2);
+            due("it is as short as told", tickRead(x, 0, lane, 158), INDEX);
+            x.sheet(0, lane, 160);
+            due("what was there ahead of a shorter one is gone", tickRead(x, 0, lane, 158), 0);
+            x.item(0, lane, 158, 9);
+            x.drop(0);
+            x.sheet(0, lane, 160);
+            due("what was dropped is gone", tickRead(x, 0, lane, 158), 0);
         }
     }
 
