@@ -1,3 +1,5 @@
+import java.util.Random;
+
 /** What the edge tests share: the sentence of the document that is tried now, and how many answers were wrong. */
 final class Edges {
     static final int BAD = -1, NOT = -2, FULL = -3, NULL = -11, CAST = -12, INDEX = -13, SIZE = -14;
@@ -33,6 +35,11 @@ final class Edges {
             System.out.println(wrong + " answers are not as due");
             System.exit(1);
         }
+    }
+
+    /** Spreads the seeds, as the first numbers of seeds side by side are nearly the same. */
+    static Random randomOf(int seed) {
+        return new Random(seed * 0x9E3779B97F4A7C15L);
     }
 
     /** Puts letters (tick, line, tick, line, ..) behind a row, by sheet 3. */
