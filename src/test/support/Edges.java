@@ -1,6 +1,6 @@
 import java.util.Random;
 
-/** What the edge tests share: the sentence of the document that is tried now, and how many answers were wrong. */
+/** What tests share: the sentence of the document that is tried now, and how many answers were wrong. */
 final class Edges {
     static final int BAD = -1, NOT = -2, FULL = -3, NULL = -11, CAST = -12, INDEX = -13, SIZE = -14;
     static final int MIN = Integer.MIN_VALUE, MAX = Integer.MAX_VALUE;
